@@ -6,8 +6,8 @@ public final class FuzzTest {
         "waits", "flip", "blot", "undo", "factory", "bundle", "draws", "next", "cuts", "twice", "lasts", "slack",
         "frail", "route", "life", "least", "why", "revoked", "image", "wild", "feed"};
     // How often each call comes, of all together.
-    private static final int[] WEIGHTS = {30, 20, 25, 14, 6, 6, 6, 8, 8, 8, 8, 8, 3, 1, 4, 3, 6, 1, 3, 1, 1, 2, 6, 3, 3,
-        2, 2, 4, 1};
+    private static final int[] WEIGHTS = {30, 20, 25, 14, 6, 6, 6, 9, 8, 4, 4, 6, 3, 1, 4, 3, 6, 2, 3, 1, 1, 2, 6, 3, 3,
+        2, 2, 3, 1};
 
     private final Random random;
     private final TwinSlots x = new TwinSlots();
@@ -172,16 +172,28 @@ public final class FuzzTest {
     private void run(int calls) {
         if (!one(20)) {
             feed(drawText(4));
-            due("factory(0)", x.factory(0) ? 1 : 0, m.factory(0) ? 1 : 0);
+            for (int image = 0; image < m.bundle.images.size(); image++) {
+                due("factory(" + image + ")", x.factory(image) ? 1 : 0, m.factory(image) ? 1 : 0);
+            }
         }
         for (int n = 0; n < calls && wrong == 0; n++) {
-            call(CALLS[drawCall()]);
+            call(likely(CALLS[drawCall()]));
             int kept = told.length();
             observe();
             if (wrong == 0) {
                 told.setLength(kept);
             }
         }
+    }
+
+    /** Mostly a call that can be done now, so that a run does not stand still. */
+    private String likely(String name) {
+        boolean on = m.state.running != -1;
+        boolean needsOn = "health install off refresh prefer mend resume waits".contains(name);
+        if (one(8) || on != name.equals("boot") && (on || !needsOn)) {
+            return name;
+        }
+        return on ? one(2) ? "off" : one(2) ? "health" : "install" : "boot";
     }
 
     private int drawCall() {
