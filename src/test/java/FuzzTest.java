@@ -1,13 +1,14 @@
+import java.util.Arrays;
 import java.util.Random;
 
 /** Drawn runs of calls, each answer held against that of the Model; the seeds are fixed. */
 public final class FuzzTest {
     private static final String[] CALLS = {"boot", "health", "install", "off", "refresh", "prefer", "mend", "resume",
         "waits", "flip", "blot", "undo", "factory", "bundle", "draws", "next", "cuts", "twice", "lasts", "slack",
-        "frail", "route", "life", "least", "why", "revoked", "image", "wild", "feed"};
+        "frail", "route", "life", "least", "why", "revoked", "image", "wild", "feed", "page"};
     // How often each call comes, of all together.
     private static final int[] WEIGHTS = {30, 20, 25, 14, 6, 6, 6, 9, 8, 4, 4, 6, 3, 1, 4, 3, 6, 2, 3, 1, 1, 2, 6, 3, 3,
-        2, 2, 3, 1};
+        2, 2, 3, 1, 4};
 
     private final Random random;
     private final TwinSlots x = new TwinSlots();
@@ -257,8 +258,31 @@ public final class FuzzTest {
                 int image = one(2) ? 0 : i;
                 due("factory(" + image + ")", x.factory(image) ? 1 : 0, m.factory(image) ? 1 : 0);
             }
+            case "page" -> {
+                int page = below(2);
+                int[] b = {165, (m.state.pages[1 - page][1] + 254 + below(5)) % 256, below(256), below(256),
+                    one(3) ? below(256) : below(9), one(3) ? below(256) : below(4)};
+                page(page, Arrays.copyOf(b, 8));
+            }
             case "bundle" -> feed(one(3) ? spoil(drawText(4)) : drawText(4));
             default -> ask(name, a, i, k);
+        }
+    }
+
+    /** Turns the bits of a page till it is whole with these bytes. */
+    private void page(int page, int[] b) {
+        for (int k = 0; k < 6; k++) {
+            int check = b[6] * 256 + b[7] + (k + 1) * b[k];
+            b[6] = check / 256;
+            b[7] = check % 256;
+        }
+        for (int place = 0; place < 8; place++) {
+            for (int bit = 0; bit < 8; bit++) {
+                if (((m.state.pages[page][place] ^ b[place]) >> bit & 1) == 1) {
+                    due("blot(" + page + ", " + place + ", " + bit + ")", x.blot(page, place, bit),
+                        m.blot(page, place, bit));
+                }
+            }
         }
     }
 

@@ -23,6 +23,7 @@ public final class PromisesTest {
         boots();
         bootsThatFall();
         bootsByFailures();
+        bootsOfTurnedPages();
         healths();
         fuses();
         installs();
@@ -137,6 +138,31 @@ public final class PromisesTest {
         return h;
     }
 
+    /** Turns the bits of a page till it is whole with these. */
+    private static void page(TwinSlots x, int page, int sequence, int a, int b, int failures, int last) {
+        int check = 165 + 2 * sequence + 3 * a + 4 * b + 5 * failures + 6 * last;
+        int[] bytes = {165, sequence, a, b, failures, last, check / 256, check % 256};
+        for (int k = 0; k < 8; k++) {
+            int turned = x.octet(page, k) ^ bytes[k];
+            for (int bit = 0; bit < 8; bit++) {
+                if ((turned >> bit & 1) == 1) {
+                    x.blot(page, k, bit);
+                }
+            }
+        }
+        due("the page is whole", x.whole(page), 1);
+    }
+
+    /** Both slots can start (version 4 in A, 6 in B), the machine is off, page 0 is cleared. */
+    private static TwinSlots withBoth() {
+        TwinSlots x = inSlotA();
+        x.install(B, 2, NONE);
+        x.off();
+        page(x, 0, 0, 0, 0, 0, 0);
+        x.blot(0, 0, 0);
+        return x;
+    }
+
     private static void flags(TwinSlots x, int slot, int priority, int tries, int good) {
         due("flag(" + slot + ", 0)", x.flag(slot, 0), priority);
         due("flag(" + slot + ", 1)", x.flag(slot, 1), tries);
@@ -224,6 +250,13 @@ public final class PromisesTest {
         fault("key ", 4, 1);
         fault("keys 1", 0, 1);
         fault("ke", 0, 1);
+        fault("keyz 1", 0, 1);
+        fault("keya 1", 0, 1);
+        lines("key`1".replace('`', ' '), 1);
+        fault("key`1", 3, 1);
+        fault("key{1", 3, 1);
+        fault("key /", 4, 1);
+        fault("key :", 4, 1);
         fault("Key 1", 0, 1);
         fault(" 1", 1, 1);
         fault(";key 1", 0, 1);
@@ -495,6 +528,50 @@ public final class PromisesTest {
         y.off();
         y.boot(false, NONE);
         due("version of copy 3", y.started(0, 1), 0);
+    }
+
+    private static void bootOf(int a, int b, int failures, int last, int due) {
+        TwinSlots x = withBoth();
+        page(x, 1, 9, a, b, failures, last);
+        due("count(8)", x.count(8), last);
+        due("count(7)", x.count(7), failures);
+        due("next of " + a + ", " + b, x.next(false), due);
+        due("boot of " + a + ", " + b, x.boot(false, NONE), due);
+        due("failures", x.count(7), due < 2 ? failures + 1 : failures);
+        int of = due == A ? a : b;
+        if (due < 2) {
+            flags(x, due, of >> 4, (of >> 1 & 7) - 1 + (of & 1), of & 1);
+        }
+    }
+
+    private static void bootsOfTurnedPages() {
+        promise(7);
+        int oneTry = 2;
+        bootOf(7 * 16 + oneTry, 7 * 16 + oneTry, 0, 0, A);
+        bootOf(7 * 16 + oneTry, 7 * 16 + 14 + 1, 0, 0, A);
+        bootOf(7 * 16 + oneTry, 8 * 16 + oneTry, 0, 0, B);
+        bootOf(8 * 16, 7 * 16 + 1, 0, 0, B);
+        bootOf(16 + 1, 0, 0, 0, A);
+        bootOf(16 + oneTry, 14 + 1, 0, 0, A);
+        bootOf(14 + 1, 14 + 1, 0, 0, RECOVERY);
+        bootOf(15 * 16, 15 * 16, 0, 0, RECOVERY);
+        bootOf(255, 255, 2, 0, A);
+        bootOf(255, 255, 3, 0, RECOVERY);
+        bootOf(255, 255, 255, 255, RECOVERY);
+        // What a page says of LAST beyond 3 is written again as it is.
+        TwinSlots x = withBoth();
+        x.boot(true, NONE);
+        page(x, 0, 8, 255, 255, 255, 200);
+        page(x, 1, 9, 254, 1, 254, 201);
+        due("last", x.count(8), 201);
+        due("prefer", x.prefer(B, NONE), 14);
+        due("last", x.count(8), 201);
+        flags(x, A, 14, 7, 0);
+        flags(x, B, 15, 0, 1);
+        due("failures", x.count(7), 254);
+        due("health", x.health(NONE), 0);
+        due("failures", x.count(7), 0);
+        due("last", x.count(8), 201);
     }
 
     // ---- 8: health
@@ -1082,7 +1159,18 @@ public final class PromisesTest {
         due("why(2)", x.why(2), 0);
         x.flip(2, 0, 5);
         due("version 32", x.why(2), 1);
-        x.undo();
+        x.flip(2, 0, 0);
+        due("version 31", x.why(2), 1);
+        x.flip(2, 0, 5);
+        due("no version", x.why(2), 1);
+        for (int bit = 0; bit < 5; bit++) {
+            x.flip(2, 0, bit);
+        }
+        due("version 30", x.why(2), 2);
+        for (int bit = 1; bit < 5; bit++) {
+            x.flip(2, 0, bit);
+        }
+        due("as it was", x.why(2), 0);
         x.flip(2, 0, 1);
         due("another version", x.why(2), 2);
         x.undo();
@@ -1271,6 +1359,34 @@ public final class PromisesTest {
         // With nothing that can start but A, whose words a turned bit spoils: the boot clears A's flags, 9 writes.
         y.flip(A, 5, 0);
         due("nine by nine", y.twice(0, 0, 0), 9 * 9);
+        lastByteThatStands();
+    }
+
+    /** A check whose rest is 255 stands in a cleared page already: it is whole one write before the last. */
+    private static void lastByteThatStands() {
+        TwinSlots x = inSlotA();
+        x.off();
+        x.flip(2, 5, 0);
+        x.flip(3, 5, 0);
+        page(x, 1, 63, 15 * 16 + 2, 0, 1, 0);
+        page(x, 0, 61, 0, 0, 0, 0);
+        due("the newest", x.count(9), 0);
+        page(x, 0, 62, 0, 0, 0, 0);
+        due("the newest", x.count(9), 1);
+        // A boot of A: 165 + 2 * 64 + 3 * 240 + 5 * 2 is 1023, by 256 the rest 255.
+        promise(27);
+        due("A till then", x.cuts(0, 0, 0, 1), 8);
+        due("nothing then", x.cuts(0, 0, 0, 4), 1);
+        due("flags as ahead", x.cuts(0, 0, 0, 5), 8);
+        due("flags as behind", x.cuts(0, 0, 0, 6), 1);
+        due("with the button nothing is written", x.cuts(0, 1, 0, 0), 0);
+        promise(28);
+        due("the second cut there", x.twice(0, 0, 0), 8);
+        due("boot with the button", x.twice(0, 1, 0), 0);
+        promise(7);
+        due("cut ahead of byte 7", x.boot(false, 8), -2);
+        due("it is whole", x.whole(0), 1);
+        flags(x, A, 15, 0, 0);
     }
 
     private static void lasting() {
@@ -1405,6 +1521,28 @@ public final class PromisesTest {
         x.factory(0);
         due("301 stands ahead of it", x.route(7, NONE), -3);
         due("unknown", x.route(7, 3), -3);
+        // Just 300 stands come ahead of the one that is so, then 301.
+        TwinSlots z = told("key 0;image 0 0 parts 2;image 7 0 parts 0;image 2 0 parts 0;image 2 0 parts 1;limit 1;tries 1");
+        z.factory(0);
+        z.boot(false, NONE);
+        z.install(A, 1, NONE);
+        z.off();
+        route(z, 2, 1, 0, 1, 2, 102, 0, 1, 2);
+        z = told("key 0;key 1;image 0 0 parts 0;image 8 0 revokes 1 parts 1;image 0 0 parts 2;image 7 1 revokes 1 parts 0;"
+            + "limit 2;tries 2");
+        z.factory(0);
+        z.boot(true, NONE);
+        z.health(NONE);
+        z.off();
+        z.boot(true, NONE);
+        z.health(NONE);
+        z.install(A, 3, NONE);
+        z.off();
+        z.boot(false, NONE);
+        z.off();
+        z.boot(false, NONE);
+        z.install(B, 1, NONE);
+        due("301 stands", z.route(0, NONE), -3);
         // Images of like words make like stands: here there are few.
         TwinSlots y = told("key 1;image 1 0 parts 1;image 1 0 parts 1;image 1 0 parts 1;image 1 0 parts 1;"
             + "image 1 0 parts 1;image 1 0 parts 1;limit 1;tries 1");
