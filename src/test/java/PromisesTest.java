@@ -636,6 +636,12 @@ public final class PromisesTest {
         x.flip(A, 0, 30);
         due("all fuses", x.health(NONE), 31);
         due("writes", x.count(14), 9 + 22);
+        // Six keys have fuses, whether or not the bundle has them all.
+        x.flip(A, 2, 5);
+        x.flip(A, 2, 6);
+        due("health", x.health(NONE), 31);
+        due("keys", x.count(5), 32 + 6);
+        due("writes", x.count(14), 10);
         TwinSlots y = inSlotA();
         y.flip(A, 0, 0);
         y.flip(A, 0, 2);
@@ -1460,6 +1466,14 @@ public final class PromisesTest {
         x.undo();
         x.blot(0, 0, 3);
         due("one bit back, all of page 1", x.frail(1), 65);
+        int[][] pairs = {{128, 0, 0, 3, 0, 0, 0, 3}, {0, 1, 0, 0, 0, 0, 128, 0}, {0, 0, 1, 0, 0, 0, 0, 128},
+            {0, 128, 0, 0, 0, 0, 0, 0}, {0, 0, 0, 1, 0, 0, 0, 0}, {1, 0, 0, 0, 0, 0, 0, 0}};
+        for (int[] p : pairs) {
+            TwinSlots y = new TwinSlots();
+            page(y, 0, 5, p[0], p[1], p[2], p[3]);
+            page(y, 1, 4, p[4], p[5], p[6], p[7]);
+            due("all of page 0 tell other flags", y.frail(1), 64);
+        }
     }
 
     // ---- 32: route
