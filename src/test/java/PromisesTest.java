@@ -1,18 +1,7 @@
 /** For each promise of the document: ordinary calls, the edges that it names, and wrong inputs. */
-public final class PromisesTest {
+public final class PromisesTest extends Checks {
     private static final String TWO_KEYS = "key 5;key 7 under 0;image 2 1 parts 10;image 3 0 revokes 1 parts 7 8;"
         + "image 0 0 parts 7;limit 2;tries 1";
-    // Image 0 for recovery, 1 to 5 for slots; key 2 under key 1.
-    private static final String THREE_KEYS = "key 1;key 2;key 3 under 1;image 0 0 parts 1;image 4 0 parts 1 2 3 4;"
-        + "image 6 1 parts 5;image 7 2 parts 6;image 9 0 revokes 1 parts 7;image 9 0 revokes 2,1 parts 8";
-    private static final int A = 0;
-    private static final int B = 1;
-    private static final int RECOVERY = 2;
-    private static final int NOTHING = 3;
-    private static final int NONE = -1;
-
-    private static int wrong;
-    private static int promise;
 
     public static void main(String[] args) {
         newObject();
@@ -59,99 +48,7 @@ public final class PromisesTest {
         }
     }
 
-    private static void promise(int number) {
-        promise = number;
-    }
-
-    private static void due(String what, long got, long want) {
-        if (got != want) {
-            wrong++;
-            System.out.println("promise " + promise + ": " + what + " answered " + got + ", due is " + want);
-        }
-    }
-
-    private static void due(String what, boolean got, boolean want) {
-        due(what, got ? 1 : 0, want ? 1 : 0);
-    }
-
     // ---- helps
-
-    private static int tell(TwinSlots x, String text) {
-        x.end(0);
-        for (int at = 0; at < text.length(); at += 20) {
-            int[] n = new int[5];
-            for (int k = 0; k < 20 && at + k < text.length(); k++) {
-                n[k / 4] |= text.charAt(at + k) << (24 - 8 * (k % 4));
-            }
-            x.feed(n[0], n[1], n[2], n[3], n[4]);
-        }
-        x.end(text.length());
-        return x.bundle();
-    }
-
-    private static TwinSlots told(String text) {
-        TwinSlots x = new TwinSlots();
-        if (tell(x, text) < 1) {
-            wrong++;
-            System.out.println("no bundle: " + text);
-        }
-        return x;
-    }
-
-    /** Recovery stands (image 0 of THREE_KEYS) and runs. */
-    private static TwinSlots inRecovery() {
-        TwinSlots x = told(THREE_KEYS);
-        x.factory(0);
-        x.boot(false, NONE);
-        return x;
-    }
-
-    /** Image 1 (version 4) runs in slot A, without health. */
-    private static TwinSlots inSlotA() {
-        TwinSlots x = inRecovery();
-        x.install(A, 1, NONE);
-        x.off();
-        x.boot(false, NONE);
-        return x;
-    }
-
-    /** All that can be seen of the store, of what runs and of the acts, as one number. */
-    private static long seen(TwinSlots x) {
-        long h = 7;
-        for (int store = 0; store < 4; store++) {
-            for (int k = 0; k < 14; k++) {
-                h = h * 31 + x.word(store, k);
-            }
-        }
-        for (int k = 0; k < 8; k++) {
-            h = (h * 31 + x.octet(0, k)) * 31 + x.octet(1, k);
-        }
-        for (int k = 0; k < 4; k++) {
-            h = h * 31 + x.journal(k);
-        }
-        for (int what = 0; what < 19; what++) {
-            h = h * 31 + x.count(what);
-        }
-        for (int k = 0; k < 12; k++) {
-            h = (h * 31 + x.started(k, 0)) * 31 + x.started(k, 1);
-        }
-        return h;
-    }
-
-    /** Turns the bits of a page till it is whole with these. */
-    private static void page(TwinSlots x, int page, int sequence, int a, int b, int failures, int last) {
-        int check = 165 + 2 * sequence + 3 * a + 4 * b + 5 * failures + 6 * last;
-        int[] bytes = {165, sequence, a, b, failures, last, check / 256, check % 256};
-        for (int k = 0; k < 8; k++) {
-            int turned = x.octet(page, k) ^ bytes[k];
-            for (int bit = 0; bit < 8; bit++) {
-                if ((turned >> bit & 1) == 1) {
-                    x.blot(page, k, bit);
-                }
-            }
-        }
-        due("the page is whole", x.whole(page), 1);
-    }
 
     /** Both slots can start (version 4 in A, 6 in B), the machine is off, page 0 is cleared. */
     private static TwinSlots withBoth() {
@@ -161,12 +58,6 @@ public final class PromisesTest {
         page(x, 0, 0, 0, 0, 0, 0);
         x.blot(0, 0, 0);
         return x;
-    }
-
-    private static void flags(TwinSlots x, int slot, int priority, int tries, int good) {
-        due("flag(" + slot + ", 0)", x.flag(slot, 0), priority);
-        due("flag(" + slot + ", 1)", x.flag(slot, 1), tries);
-        due("flag(" + slot + ", 2)", x.flag(slot, 2), good);
     }
 
     // ---- 1 to 5
@@ -223,16 +114,6 @@ public final class PromisesTest {
         due("end(9)", y.end(9), NONE);
         due("bundle() of key 1000", y.bundle(), 1);
         due("count(13)", y.count(13), 0);
-    }
-
-    private static void fault(String text, int place, int what) {
-        TwinSlots x = new TwinSlots();
-        due("bundle() of " + text, tell(x, text), -2 - (8 * place + what));
-        due("keys of " + text, x.count(0), 0);
-    }
-
-    private static void lines(String text, int lines) {
-        due("bundle() of " + text, tell(new TwinSlots(), text), lines);
     }
 
     private static void faults() {
