@@ -310,6 +310,27 @@ public final class AskedEdgesTest extends Checks {
         due("an empty store", new TwinSlots().twice(0, 0, 0), 0);
     }
 
+    static void secondCutBehindATry() {
+        says(28, "how many twos behind which a BOOT STARTS nothing");
+        TwinSlots x = inSlotA();
+        x.off();
+        x.flip(2, 6, 0);
+        x.flip(3, 6, 0);
+        bytes(x, 0, 0, 0, 0, 0, 0, 0, 0, 0);
+        // A boot of A writes CHECK 1023, of which the rest, 255, stands in a cleared page: it is whole a write before.
+        page(x, 1, 63, slotByte(15, 1, 0), 0, 1, A);
+        due("cut ahead of the last write", x.boot(false, 8), POWER_FAILED);
+        due("it is whole", x.whole(0), 1);
+        x.undo();
+        twice(x, 0, 0, 0, 8);
+        page(x, 1, 64, slotByte(15, 1, 0), 0, 1, A);
+        due("cut ahead of the last write", x.boot(false, 8), POWER_FAILED);
+        due("another check", x.whole(0), 0);
+        x.undo();
+        twice(x, 0, 0, 0, 0);
+        due("no try is lost", x.twice(0, 0, 0), 0);
+    }
+
     // ---- 29: lasts
 
     private static void lasts(String text, int a, int b, boolean recovery, int boots) {
@@ -461,6 +482,26 @@ public final class AskedEdgesTest extends Checks {
         frail(x, 0, 64);
     }
 
+    static void flagsThatDifferByTwoBits() {
+        says(31, "1: by which FLAGS are others");
+        // Each flag's bit alone on a page against each other one on the other page: none may stand for another.
+        // Behind the last of 32 bits stands none.
+        for (int first = 0; first <= 32; first++) {
+            for (int second = 0; second <= 32; second++) {
+                TwinSlots x = new TwinSlots();
+                pageOfOneBit(x, 0, 5, first);
+                pageOfOneBit(x, 1, 4, second);
+                due("bits " + first + " and " + second, x.frail(1), first == second ? 0 : 64);
+            }
+        }
+    }
+
+    private static void pageOfOneBit(TwinSlots x, int page, int sequence, int bit) {
+        int[] flags = new int[5];
+        flags[bit / 8] = 1 << bit % 8;
+        page(x, page, sequence, flags[0], flags[1], flags[2], flags[3]);
+    }
+
     static void frailsThatAreNot() {
         says(31, "NONE for others.");
         TwinSlots x = inSlotA();
@@ -570,11 +611,10 @@ public final class AskedEdgesTest extends Checks {
     static void stand300And301() {
         says(32, "300 at most, those in which it is so not counted: would the 301st come ahead of one, it is UNKNOWN");
         // Version 9 is nowhere, so all stands come that can: they are few, for there is one image.
-        String text = "key 1;key 2;image 0 0 revokes 1 parts 1;limit 1;tries 1";
-        TwinSlots x = withFlags(text, 29, 0, 2, 2);
+        TwinSlots x = withFlags(ONE_IMAGE, 29, 0, 2, 2);
         due("299 stands", x.route(9, NONE), -2);
         due("299 stands", x.route(9, 0), -2);
-        TwinSlots y = withFlags(text, 19, 0, 2, 0);
+        TwinSlots y = withFlags(ONE_IMAGE, 19, 0, 2, 0);
         due("300 stands", y.route(9, NONE), -2);
         due("300 stands", y.route(9, 0), -2);
         TwinSlots z = withFlags("key 1;image 0 0 revokes 0 parts 1;limit 1;tries 3", 2, 0, 2, 1);
@@ -584,6 +624,120 @@ public final class AskedEdgesTest extends Checks {
         due("301 stands", z.route(9, 0), -3);
         due("301 stands", z.route(9, Integer.MAX_VALUE), -3);
         route(z, 0, 2, 0, 1, 2);
+    }
+
+    private static final String ONE_IMAGE = "key 1;key 2;image 0 0 revokes 1 parts 1;limit 1;tries 1";
+
+    static void standsOfLikeImages() {
+        says(32, "STANDS are alike, if WORDS, FLAGS (but SEQUENCE), FUSES, what is RUNNING");
+        // As many stands as by one image, for the others have the same words.
+        String image = "image 0 0 revokes 1 parts 1;";
+        for (int images = 1; images <= 6; images++) {
+            TwinSlots x = withFlags(ONE_IMAGE.replace(image, image.repeat(images)), 19, 0, 2, 0);
+            due("images", x.count(1), images);
+            due("300 stands by " + images + " images", x.route(9, NONE), -2);
+            route(x, 0, 1, 2, 100, 0, 1, 2);
+        }
+        TwinSlots y = withFlags(ONE_IMAGE.replace(image, image + "image 0 0 parts 1;"), 19, 0, 2, 0);
+        due("more by another one", y.route(9, NONE), -3);
+    }
+
+    static void standsOfSlotsThatHoldAnImage() {
+        says(32, "STANDS are alike, if WORDS, FLAGS (but SEQUENCE), FUSES, what is RUNNING");
+        int[][] flags = {{0, 54, 2, 0}, {39, 12, 0, 0}, {37, 7, 2, 0}, {61, 45, 0, 0}};
+        for (int n = 0; n < 4; n++) {
+            TwinSlots x = withFlags(ONE_IMAGE, flags[n][0], flags[n][1], flags[n][2], flags[n][3]);
+            lay(x, n / 2, 0);
+            due("300 or 301 stands", x.route(9, NONE), n % 2 == 0 ? -2 : -3);
+        }
+    }
+
+    static void slotsThatHoldAlmostAnImage() {
+        says(32, "STANDS are alike, if WORDS");
+        for (int k = 0; k < 14; k++) {
+            TwinSlots x = inRecovery("key 1;image 0 0 parts 1;image 5 0 parts 1 2 3 4");
+            lay(x, A, 1);
+            x.flip(A, k, 0);
+            due("it cannot start", k == 2 || x.why(A) > 0, true);
+            route(x, 5, 101, 0, 1, 2);
+            route(x, 0, 100, 0, 1, 2);
+        }
+        for (int held = 0; held < 2; held++) {
+            TwinSlots x = inRecovery("key 1;image 2 0 parts 1;image 5 0 parts 1 2 3 4");
+            lay(x, A, held);
+            route(x, 2, 100, 0, 1, 2);
+            route(x, 5, 101, 0, 1, 2);
+            tellFlags(x, slotByte(15, 2, 0), 0, 0, RECOVERY);
+            x.off();
+            x.boot(false, NONE);
+            due("A runs", x.count(6), A);
+            lay(x, B, held);
+            route(x, held == 0 ? 5 : 2, 111 - held, 0, 1, 2);
+        }
+    }
+
+    /** Slot A runs version 5, without health and with failures at limit; the bundle has one image alone. */
+    private static TwinSlots atLimit(String keys, String image, int revokes) {
+        TwinSlots x = told(keys + ";image 5 0 parts 2");
+        x.factory(0);
+        lay(x, A, 0);
+        word(x, A, 2, revokes);
+        tell(x, keys + ";" + image + ";limit 1;tries 1");
+        // The sign is by key 0, whose secret is 1, so that the word that was turned is signed.
+        long h = 8;
+        for (int k = 0; k < 5; k++) {
+            h = (h * 31 + x.word(A, k)) % 65536;
+        }
+        word(x, A, 5, (int) h);
+        tellFlags(x, slotByte(15, 1, 0), 0, 0, NOTHING);
+        due("boot", x.boot(false, NONE), A);
+        return x;
+    }
+
+    static void fusesOnTheWay() {
+        says(32, "STANDS are alike, if WORDS, FLAGS (but SEQUENCE), FUSES");
+        // Health of A would set failures to 0 at once, but blow the fuse: the way goes by recovery.
+        String keys = "key 1;key 1;key 1;key 1;key 1;key 1";
+        int[] byRecovery = {0, 1, 2, 100, 0, 1, 2};
+        int[] byHealth = {2, 110, 0, 1, 2};
+        route(atLimit(keys, "image 4 0 parts 1", 0), 4, byRecovery);
+        route(atLimit(keys, "image 6 0 parts 1", 0), 6, byHealth);
+        for (int key = 0; key < 6; key++) {
+            route(atLimit(keys, "image 6 " + key + " parts 1", 1 << key), 6, byRecovery);
+            route(atLimit(keys, "image 6 " + key + " parts 1", 63 - (1 << key)), 6, byHealth);
+        }
+    }
+
+    static void fusesOfHighVersionsOnTheWay() {
+        says(32, "STANDS are alike, if WORDS, FLAGS (but SEQUENCE), FUSES");
+        for (int rollback : new int[] {0, 1, 15, 16, 29, 30, 31}) {
+            TwinSlots x = inSlotA("key 1;key 1;image 0 0 parts 1;image 30 1 parts 2;limit 9;tries 7");
+            word(x, A, 0, rollback + 1);
+            x.health(NONE);
+            due("rollback", x.count(4), rollback);
+            word(x, A, 0, 31);
+            x.off();
+            if (rollback < 31) {
+                route(x, 30, 1, 2);
+            } else {
+                due("no way by a slot", x.next(false), RECOVERY);
+            }
+        }
+    }
+
+    static void goodWithoutTriesOnTheWay() {
+        says(32, "STANDS are alike, if WORDS, FLAGS (but SEQUENCE), FUSES, what is RUNNING");
+        for (int slot = 0; slot < 2; slot++) {
+            TwinSlots x = told("key 1;image 5 0 parts 2;limit 1;tries 1");
+            x.factory(0);
+            lay(x, slot, 0);
+            tellFlags(x, slot == 0 ? slotByte(5, 0, 1) : 0, slot == 1 ? slotByte(5, 0, 1) : 0, 0, NOTHING);
+            route(x, 5, 1, 2);
+            x.blot(0, 2 + slot, 0);
+            x.blot(0, 7, 0);
+            due("another page", x.whole(0), 0);
+            route(x, 5, 1, 100, 0, 1, 2);
+        }
     }
 
     static void unknownOfMany() {
@@ -767,6 +921,31 @@ public final class AskedEdgesTest extends Checks {
                 }
             }
         }
+    }
+
+    static void startsBelowTheLastRollback() {
+        says(34, "4: ROLLBACK at its end, 5: STARTS of slots with a VERSION below ROLLBACK then");
+        int below = 0;
+        for (int seed = 0; seed < 300; seed++) {
+            TwinSlots x = told("key 1;image 0 0 parts 1;image 1 0 parts 2;limit 9;tries 7");
+            x.factory(0);
+            lay(x, A, 0);
+            lay(x, B, 0);
+            tellFlags(x, slotByte(15, 7, 0), slotByte(14, 7, 0), 0, NOTHING);
+            x.draws(seed * 7919);
+            int due = x.life(60, 5);
+            int starts = x.life(60, 0) - x.life(60, 1);
+            drawn = seed * 7919;
+            int ofZero = 0;
+            for (int k = 0; k < 60; k++) {
+                int answer = live(x);
+                ofZero += (answer == A || answer == B) && x.started(0, 1) == 0 ? 1 : 0;
+            }
+            due("starts below from " + seed, due, x.count(4) == 1 ? ofZero : 0);
+            due("of all starts of slots", due <= starts, true);
+            below += due;
+        }
+        due("some are", below > 0, true);
     }
 
     static void livesThatStartNothing() {

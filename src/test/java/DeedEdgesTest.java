@@ -438,6 +438,23 @@ public final class DeedEdgesTest extends Checks {
         due("fuses of keys", x.count(5), 11);
     }
 
+    static void fusesByTheWordsOfWhatRuns() {
+        says(8, "of a slot: it is GOOD, its TRIES are tries");
+        for (int slot = 0; slot < 2; slot++) {
+            TwinSlots x = inRecovery("key 1;key 1;key 1;key 1;key 1;key 1;image 0 0 parts 1;image 2 0 parts 1");
+            x.install(slot, 1, NONE);
+            x.off();
+            due("boot", x.boot(false, NONE), slot);
+            word(x, slot, 2, 16);
+            word(x, 1 - slot, 2, 15);
+            word(x, 1 - slot, 0, 31);
+            due("health", x.health(NONE), 2);
+            due("fuses of keys", x.count(5), 16);
+            flags(x, slot, 15, 3, 1);
+            flags(x, 1 - slot, 0, 0, 0);
+        }
+    }
+
     static void bitsOfNoKey() {
         says(8, "31 FUSES of versions, 6 of KEYS");
         TwinSlots x = inSlotA("key 1;key 1;key 1;key 1;key 1;key 1;image 0 0 parts 1;image 2 0 parts 1");
@@ -521,15 +538,15 @@ public final class DeedEdgesTest extends Checks {
     private static void otherPriority(int priority, int then) {
         TwinSlots x = withBoth(THREE_KEYS + ";tries 5");
         x.boot(true, NONE);
-        tellFlags(x, slotByte(priority, 6, 1), slotByte(3, 7, 1), 9, RECOVERY);
+        tellFlags(x, slotByte(priority, 7, 1), slotByte(3, 7, 1), 9, RECOVERY);
         due("install", x.install(B, 3, NONE), 39);
-        flags(x, A, then, 6, 1);
+        flags(x, A, then, 7, 1);
         flags(x, B, 15, 5, 0);
         due("failures stay", x.count(7), 9);
         due("last stays", x.count(8), RECOVERY);
         x.undo();
         due("prefer", x.prefer(B, NONE), then);
-        flags(x, A, then, 6, 1);
+        flags(x, A, then, 7, 1);
         flags(x, B, 15, 7, 1);
         due("failures stay", x.count(7), 9);
     }
@@ -541,6 +558,30 @@ public final class DeedEdgesTest extends Checks {
         otherPriority(13, 13);
         otherPriority(1, 1);
         otherPriority(0, 0);
+    }
+
+    static void journalBehindEachCut() {
+        says(9, "byte 2 of the JOURNAL becomes 0, then bytes 0, 1, 3 and 2 are those of the slot and IMAGE, OPEN (5 WRITES)");
+        int[] order = {2, 0, 1, 3, 2};
+        int[] bytes = {0, B, 4, B + 4 + 90, 90};
+        int[] journal = {255, 255, 255, 255};
+        for (int cut = 0; cut <= 5; cut++) {
+            TwinSlots x = inRecovery();
+            due("install cut at " + cut, x.install(B, 4, cut), POWER_FAILED);
+            for (int k = 0; k < 4; k++) {
+                due("cut at " + cut + ", journal(" + k + ")", x.journal(k), journal[k]);
+            }
+            due("open", x.count(18), cut == 5 ? 1 : 0);
+            if (cut < 5) {
+                journal[order[cut]] = bytes[cut];
+            }
+        }
+        TwinSlots y = inRecovery();
+        due("install", y.install(B, 4, NONE), 39);
+        int[] behind = {B, 4, 0, B + 4 + 90};
+        for (int k = 0; k < 4; k++) {
+            due("journal(" + k + ") behind it", y.journal(k), behind[k]);
+        }
     }
 
     static void flagsWithinAnInstall() {
