@@ -1,28 +1,10 @@
 /** The edges that the fourth Terms and promises 26 to 37 name: what is asked, tried out by the calls themselves. */
 public final class AskedEdgesTest extends Checks {
     private static final int BITS_OF_A_WORD = 31;
+    private static final String ONE_IMAGE = "key 1;key 2;image 0 0 revokes 1 parts 1;limit 1;tries 1";
 
     public static void main(String[] args) {
         runAll(AskedEdgesTest.class);
-    }
-
-    private static int perform(TwinSlots x, int deed, int a, int b, int cut) {
-        switch (deed) {
-            case 0:
-                return x.boot(a == 1, cut);
-            case 1:
-                return x.health(cut);
-            case 2:
-                return x.install(a, b, cut);
-            case 3:
-                return x.refresh(b, cut);
-            case 4:
-                return x.prefer(a, cut);
-            case 5:
-                return x.mend(cut);
-            default:
-                return x.resume(cut);
-        }
     }
 
     private static long flagsOf(TwinSlots x) {
@@ -33,7 +15,7 @@ public final class AskedEdgesTest extends Checks {
         return flags;
     }
 
-    /** Health was told of A, B holds image 2 and is the first of the choice, copy 3 is turned, a page is not whole. */
+    /** A runs and is good, an install into B was cut, a bit of copy 3 is turned, one page is not whole. */
     private static TwinSlots manyWays() {
         TwinSlots x = inSlotA(THREE_KEYS + ";tries 1");
         x.health(NONE);
@@ -132,7 +114,6 @@ public final class AskedEdgesTest extends Checks {
         x.off();
         cuts(x, 0, 0, 0, 9);
         cuts(x, 0, 1, 0, 9);
-        x.prefer(B, NONE);
         TwinSlots y = inSlotA();
         cuts(y, 1, 0, 0, 13);
         y.off();
@@ -625,8 +606,6 @@ public final class AskedEdgesTest extends Checks {
         due("301 stands", z.route(9, Integer.MAX_VALUE), -3);
         route(z, 0, 2, 0, 1, 2);
     }
-
-    private static final String ONE_IMAGE = "key 1;key 2;image 0 0 revokes 1 parts 1;limit 1;tries 1";
 
     static void standsOfLikeImages() {
         says(32, "STANDS are alike, if WORDS, FLAGS (but SEQUENCE), FUSES, what is RUNNING");

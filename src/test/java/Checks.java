@@ -220,4 +220,24 @@ abstract class Checks {
             word(x, store, k, x.image(image, k));
         }
     }
+
+    /** Does a deed by its number, as cuts() takes it. */
+    static int perform(TwinSlots x, int deed, int a, int b, int cut) {
+        switch (deed) {
+            case 0:
+                return x.boot(a == 1, cut);
+            case 1:
+                return x.health(cut);
+            case 2:
+                return x.install(a, b, cut);
+            case 3:
+                return x.refresh(b, cut);
+            case 4:
+                return x.prefer(a, cut);
+            case 5:
+                return x.mend(cut);
+            default:
+                return x.resume(cut);
+        }
+    }
 }

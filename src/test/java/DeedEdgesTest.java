@@ -20,23 +20,11 @@ public final class DeedEdgesTest extends Checks {
         due("why(" + store + ")", x.why(store), 5);
     }
 
+    /** Does a deed with the numbers that ableTo() makes room for. */
     private static int perform(TwinSlots x, int deed, int cut) {
-        switch (deed) {
-            case 0:
-                return x.boot(false, cut);
-            case 1:
-                return x.health(cut);
-            case 2:
-                return x.install(B, 2, cut);
-            case 3:
-                return x.refresh(1, cut);
-            case 4:
-                return x.prefer(B, cut);
-            case 5:
-                return x.mend(cut);
-            default:
-                return x.resume(cut);
-        }
+        int a = deed == 2 || deed == 4 ? B : 0;
+        int b = deed == 2 ? 2 : deed == 3 ? 1 : 0;
+        return perform(x, deed, a, b, cut);
     }
 
     /** An object of which that deed can be done; a mend writes flags and a copy. */
